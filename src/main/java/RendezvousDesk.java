@@ -216,7 +216,6 @@ public final class RendezvousDesk {
         time = 0;
         done = 0;
         turns = 0;
-        doneInTurn = 0;
         inTurn = false;
         for (int q = 0; q < QUEUES; q++) {
             queueLength[q] = 0;
@@ -236,7 +235,6 @@ public final class RendezvousDesk {
         limits[t] = 0;
         pending[t] = 0;
         doomed[t] = false;
-        terminable[t] = false;
         depth[t] = 0;
         makeReady(t);
     }
@@ -294,7 +292,6 @@ public final class RendezvousDesk {
     private void waitAs(int t, int how) {
         leaveRow(t);
         condition[t] = how;
-        wakeTime[t] = NONE;
     }
 
     private void wakeAfter(int t, int span, int at) {
@@ -424,9 +421,13 @@ public final class RendezvousDesk {
         return place[t];
     }
 
+    private boolean isThere(int t) {
+        return t < tasks && condition[t] != COMPLETED && condition[t] != TERMINATED;
+    }
+
     private int doCall(int t, int called, int entry, boolean late) {
         int here = place[t];
-        if (called >= tasks || condition[called] == COMPLETED || condition[called] == TERMINATED) {
+        if (!isThere(called)) {
             return fail(t, NO_PARTNER);
         }
         int at = placeToMeet(called, entry);
@@ -570,13 +571,13 @@ public final class RendezvousDesk {
     }
 
     private int doAbort(int t, int victim) {
-        if (victim >= tasks || condition[victim] == COMPLETED || condition[victim] == TERMINATED) {
+        if (!isThere(victim)) {
             return place[t] + 1;
         }
         chooseDependents(victim, ANY);
         chosen[victim] = true;
         for (int u = 0; u < tasks; u++) {
-            if (!chosen[u] || condition[u] == COMPLETED || condition[u] == TERMINATED) {
+            if (!chosen[u] || !isThere(u)) {
                 continue;
             }
             if (condition[u] == SERVED) {
@@ -678,7 +679,6 @@ public final class RendezvousDesk {
         }
         condition[t] = FALLING;
         wakeTime[t] = NONE;
-        doomed[t] = false;
     }
 
     /** Takes the top FRAME of a falling task: the caller if it was a MEETING, else NONE. */
@@ -699,7 +699,6 @@ public final class RendezvousDesk {
     private void complete(int t, int how) {
         ended[t] = how;
         condition[t] = COMPLETED;
-        pending[t] = 0;
         for (int q = t * ENTRIES; q < (t + 1) * ENTRIES; q++) {
             for (int k = 0; k < queueLength[q]; k++) {
                 int caller = queue[q * TASKS + k];

@@ -17,6 +17,10 @@ public final class EndingTest {
         abortTakesDependents();
         abortFreesCallers();
         abortOfServedOnes();
+        abortHandsBlocksOver();
+        abortLeavesOtherBlocks();
+        abortOfALeavingServer();
+        abortIsOfOneRun();
         abortInChains();
         endTogether();
         endTogetherNot();
@@ -255,6 +259,7 @@ public final class EndingTest {
         CHECK.task(desk, 2, 0, 1, 0, -1, 1);
         CHECK.due("run", STUCK, desk.run(500));
         CHECK.notes(desk, 2, 11, 3, 11, 4, 11);
+        CHECK.counts(desk, 5, 2, 24, 12);
     }
 
     private static void abortOfServedOnes() {
@@ -294,6 +299,59 @@ public final class EndingTest {
         CHECK.due("run", STUCK, desk.run(500));
         CHECK.task(desk, 2, 8, 1, 3, 14, 0);
         CHECK.task(desk, 3, 8, 0, 0, 14, 0);
+    }
+
+    private static void abortHandsBlocksOver() {
+        CHECK.about("what depended on a BLOCK depends on the task");
+        RendezvousDesk desk = Script.desk("TASK 1; TASK 2; DELAY 2; ABORT 2; BLOCK; LEAVE; PUT 1",
+            "ACCEPT 0; DELAY 5; DONE; PUT 4", "HANDLE 9; BLOCK; TASK 3; BLOCK; LEAVE; LEAVE", "CALL 1 0");
+        CHECK.due("run(17)", LONG, desk.run(17));
+        CHECK.task(desk, 0, 7, 7, 2, 0, 0);
+        CHECK.task(desk, 2, 7, 5, 3, 14, 0);
+        CHECK.task(desk, 3, 2, 0, 0, -1, 0);
+        CHECK.due("the master", 2, desk.task(3, 5));
+        CHECK.counts(desk, 4, 5, 17);
+        CHECK.due("run", OVER, desk.run(500));
+        CHECK.task(desk, 3, 8, 0, 0, 14, 0);
+        CHECK.notes(desk, 0, 1, 1, 4);
+    }
+
+    private static void abortLeavesOtherBlocks() {
+        CHECK.about("the BLOCK of another task");
+        RendezvousDesk desk = Script.desk("BLOCK; TASK 1; TASK 2; DELAY 1; ABORT 1; LEAVE; PUT 1", "BLOCK; TASK 2; LEAVE",
+            "DELAY 5; PUT 2");
+        CHECK.due("run", OVER, desk.run(500));
+        CHECK.notes(desk, 2, 2, 0, 1);
+        CHECK.task(desk, 1, 8, 2, 3, 14, 0);
+        CHECK.task(desk, 3, 8, 0, 0, 14, 0);
+    }
+
+    private static void abortOfALeavingServer() {
+        CHECK.about("its caller ends, and was the last in its BLOCK, while it is aborted itself");
+        RendezvousDesk desk = Script.desk("TASK 1; DELAY 1; ABORT 2; ABORT 1; PUT 1; PUT 2",
+            "BLOCK; TASK 2; ACCEPT 0; BLOCK; TASK 3; LEAVE; PUT 3", "CALL 1 0", "DELAY 9");
+        CHECK.due("run(11)", LONG, desk.run(11));
+        CHECK.task(desk, 1, 6, 5, 3, -1, 3);
+        CHECK.task(desk, 2, 2, 0, 0, -1, 0);
+        CHECK.due("run(12)", LONG, desk.run(12));
+        CHECK.row(desk, 0);
+        CHECK.task(desk, 1, 8, 5, 3, 14, 0);
+        CHECK.task(desk, 2, 8, 0, 0, 14, 0);
+        CHECK.task(desk, 3, 8, 0, 0, 14, 0);
+        CHECK.due("run", OVER, desk.run(500));
+        CHECK.notes(desk, 0, 1, 0, 2);
+    }
+
+    private static void abortIsOfOneRun() {
+        CHECK.about("a SERVED one of an earlier run");
+        RendezvousDesk desk = Script.desk("TASK 1; TASK 2; DELAY 1; ABORT 2; ACCEPT 1", "ACCEPT 0; ACCEPT 1", "CALL 1 0; PUT 1");
+        CHECK.due("run", STUCK, desk.run(500));
+        CHECK.task(desk, 2, 2, 0, 0, -1, 0);
+        Script.write(desk, 0, "TASK 1; TASK 2");
+        Script.write(desk, 1, "ACCEPT 0; DONE");
+        CHECK.due("run", OVER, desk.run(500));
+        CHECK.task(desk, 2, 8, 2, 0, 0, 0);
+        CHECK.notes(desk, 2, 1);
     }
 
     private static void abortInChains() {

@@ -8,6 +8,7 @@ public final class MeetingTest {
         callThatFindsAnAccept();
         acceptThatFindsACall();
         queueInOrder();
+        queueLeftFromTheMiddle();
         nestedMeetings();
         callOfItself();
         lateAtOnce();
@@ -15,6 +16,7 @@ public final class MeetingTest {
         selectTakesTheFirstOpenOne();
         selectWaitsForACall();
         selectClosedOnes();
+        selectBeforeTheEnd();
         selectElseAfterTerminate();
         delays();
         timesByNumbers();
@@ -100,6 +102,21 @@ public final class MeetingTest {
         CHECK.task(desk, 1, 8, 11, 0, 12, 0);
         CHECK.task(desk, 4, 8, 0, 0, 12, 0);
         CHECK.task(desk, 5, 8, 0, 0, 12, 0);
+    }
+
+    private static void queueLeftFromTheMiddle() {
+        String caller = "CALL 1 0; PUT 1";
+        CHECK.about("a caller is aborted");
+        RendezvousDesk desk = Script.desk("TASK 1; TASK 2; TASK 2; TASK 2; DELAY 1; ABORT 3; ACCEPT 2", "ACCEPT 1", caller);
+        CHECK.due("run", STUCK, desk.run(500));
+        CHECK.queue(desk, 1, 0, 2, 4);
+        CHECK.about("a caller gives up");
+        desk = Script.desk("TASK 1; TASK 2; TASK 3; TASK 2; CALL 1 0", "ACCEPT 1", caller, "LIMIT 4; LATE 1 0; PUT 1; PUT 2");
+        CHECK.due("run(9)", LONG, desk.run(9));
+        CHECK.queue(desk, 1, 0, 2, 3, 0);
+        CHECK.due("run", STUCK, desk.run(500));
+        CHECK.queue(desk, 1, 0, 2, 0, 4);
+        CHECK.notes(desk, 3, 2);
     }
 
     private static void nestedMeetings() {
@@ -223,6 +240,20 @@ public final class MeetingTest {
         CHECK.due("run", OVER, desk.run(500));
         CHECK.notes(desk, 0, 2);
         CHECK.counts(desk, 1, 4);
+    }
+
+    private static void selectBeforeTheEnd() {
+        CHECK.about("what an earlier body had behind the last instruction is none of its");
+        RendezvousDesk desk = Script.desk("TASK 1; DELAY 1; CALL 1 1", "SELECT; WHEN 0 9; WHEN 1 3; ELSE 3; PUT 1; DONE");
+        desk.run(500);
+        Script.write(desk, 1, "SELECT; WHEN 0 9");
+        CHECK.due("run", STUCK, desk.run(500));
+        CHECK.task(desk, 1, 4, 0, 0, -1, 0);
+        CHECK.queue(desk, 1, 1, 0);
+        Script.write(desk, 0, "TASK 1; CALL 1 1");
+        CHECK.due("run", STUCK, desk.run(500));
+        CHECK.task(desk, 1, 4, 0, 0, -1, 0);
+        CHECK.queue(desk, 1, 1, 0);
     }
 
     private static void selectElseAfterTerminate() {

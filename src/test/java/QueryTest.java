@@ -46,6 +46,13 @@ public final class QueryTest {
         CHECK.queue(desk, 0, 1);
         CHECK.due("queued(0, 3, 0)", -1, desk.queued(0, 3, 0));
         CHECK.due("queued(8, 0, 0)", -1, desk.queued(8, 0, 0));
+        Script.write(desk, 0, "TASK 1; TASK 1; CALL 1 0");
+        desk.run(500);
+        CHECK.queue(desk, 1, 0, 0);
+        CHECK.due("queued(0, 3, 0), with a caller of the next task", -1, desk.queued(0, 3, 0));
+        CHECK.due("queued(2, -3, 0), with a caller of the task before", -1, desk.queued(2, -3, 0));
+        Script.write(desk, 0, "TASK 1; TASK 1; TASK 1; TASK 1; TASK 1; TASK 1; TASK 1; CALL 0 2");
+        desk.run(500);
         for (int far : FAR) {
             CHECK.due("queued of task " + far, -1, desk.queued(far, 2, 0));
             CHECK.due("queued of entry " + far, -1, desk.queued(0, far, 0));
