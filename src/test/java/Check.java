@@ -24,6 +24,10 @@ final class Check {
         }
     }
 
+    void run(RendezvousDesk desk, int most, int want) {
+        due("run(" + most + ")", want, desk.run(most));
+    }
+
     /** STATE, PLACE, X, what it was completed with and FRAMES of a task. */
     void task(RendezvousDesk desk, int t, int... want) {
         int[] what = {0, 1, 2, 3, 6};
@@ -63,6 +67,26 @@ final class Check {
         for (int what = 0; what < want.length; what++) {
             due("state(" + what + ")", want[what], desk.state(what));
         }
+    }
+
+    /** Every answer about the latest run, to compare before and after a call that may not change it. */
+    static String all(RendezvousDesk desk) {
+        StringBuilder all = new StringBuilder();
+        for (int t = -1; t <= 8; t++) {
+            for (int what = -1; what <= 8; what++) {
+                all.append(desk.task(t, what)).append(' ');
+            }
+            for (int entry = -1; entry <= 3; entry++) {
+                for (int k = -1; k <= 8; k++) {
+                    all.append(desk.queued(t, entry, k)).append(' ');
+                }
+            }
+            all.append(desk.ready(t)).append(' ').append(desk.state(t)).append(' ');
+        }
+        for (int k = -1; k <= 61; k++) {
+            all.append(desk.noted(k, 0)).append(' ').append(desk.noted(k, 1)).append(' ');
+        }
+        return all.toString();
     }
 
     /** Every test ends here: a test that compared nothing has failed, too. */

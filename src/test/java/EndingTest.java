@@ -87,7 +87,8 @@ public final class EndingTest {
 
     private static void raisedThroughMeetings() {
         CHECK.about("raised in a MEETING");
-        RendezvousDesk desk = Script.desk("TASK 1; HANDLE 4; CALL 1 0; PUT 1; SHOW", "HANDLE 4; ACCEPT 0; ADD 1; RAISE 6; SHOW");
+        RendezvousDesk desk = Script.desk("TASK 1; HANDLE 4; CALL 1 0; PUT 1; SHOW",
+            "HANDLE 4; ACCEPT 0; ADD 1; RAISE 6; SHOW");
         CHECK.due("run(7)", LONG, desk.run(7));
         CHECK.task(desk, 0, 0, 2, 1, -1, 1);
         CHECK.task(desk, 1, 0, 4, 6, -1, 0);
@@ -285,14 +286,16 @@ public final class EndingTest {
         CHECK.task(desk, 1, 8, 1, 0, 14, 0);
         CHECK.notes(desk, 0, 1);
         CHECK.about("what depends on a SERVED one is aborted at once");
-        desk = Script.desk("TASK 1; TASK 2; DELAY 1; ABORT 2; ABORT 2; PUT 1", "ACCEPT 0; DELAY 5; DONE", "TASK 3; CALL 1 0", "DELAY 9");
+        desk = Script.desk("TASK 1; TASK 2; DELAY 1; ABORT 2; ABORT 2; PUT 1", "ACCEPT 0; DELAY 5; DONE",
+            "TASK 3; CALL 1 0", "DELAY 9");
         CHECK.due("run(9)", LONG, desk.run(9));
         CHECK.task(desk, 2, 2, 1, 3, -1, 0);
         CHECK.task(desk, 3, 8, 0, 0, 14, 0);
         CHECK.due("run", OVER, desk.run(500));
         CHECK.task(desk, 2, 8, 1, 3, 14, 0);
         CHECK.about("COMPLETED until a SERVED one ends");
-        desk = Script.desk("TASK 1; TASK 2; DELAY 1; ABORT 2; PUT 1; ACCEPT 0", "ACCEPT 0; DELAY 5; DONE", "TASK 3; ACCEPT 0", "CALL 1 0");
+        desk = Script.desk("TASK 1; TASK 2; DELAY 1; ABORT 2; PUT 1; ACCEPT 0", "ACCEPT 0; DELAY 5; DONE",
+            "TASK 3; ACCEPT 0", "CALL 1 0");
         CHECK.due("run(10)", LONG, desk.run(10));
         CHECK.task(desk, 2, 7, 1, 3, 14, 0);
         CHECK.task(desk, 3, 2, 0, 0, -1, 0);
@@ -344,7 +347,8 @@ public final class EndingTest {
 
     private static void abortIsOfOneRun() {
         CHECK.about("a SERVED one of an earlier run");
-        RendezvousDesk desk = Script.desk("TASK 1; TASK 2; DELAY 1; ABORT 2; ACCEPT 1", "ACCEPT 0; ACCEPT 1", "CALL 1 0; PUT 1");
+        RendezvousDesk desk = Script.desk("TASK 1; TASK 2; DELAY 1; ABORT 2; ACCEPT 1", "ACCEPT 0; ACCEPT 1",
+            "CALL 1 0; PUT 1");
         CHECK.due("run", STUCK, desk.run(500));
         CHECK.task(desk, 2, 2, 0, 0, -1, 0);
         Script.write(desk, 0, "TASK 1; TASK 2");
@@ -411,7 +415,8 @@ public final class EndingTest {
         CHECK.due("run", OVER, desk.run(500));
         CHECK.notes(desk, 0, 1);
         CHECK.about("callers of a closed one");
-        desk = Script.desk("TASK 2; BLOCK; TASK 1; LEAVE; PUT 1", server, "DELAY 0; DELAY 0; DELAY 0; HANDLE 5; CALL 2 1; SHOW");
+        desk = Script.desk("TASK 2; BLOCK; TASK 1; LEAVE; PUT 1",
+            server, "DELAY 0; DELAY 0; DELAY 0; HANDLE 5; CALL 2 1; SHOW");
         CHECK.due("run", OVER, desk.run(500));
         CHECK.notes(desk, 1, 11, 0, 1);
     }

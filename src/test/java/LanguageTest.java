@@ -1,8 +1,11 @@
 import com.sun.source.tree.AssertTree;
+import com.sun.source.tree.AssignmentTree;
 import com.sun.source.tree.CatchTree;
 import com.sun.source.tree.ClassTree;
 import com.sun.source.tree.CompilationUnitTree;
+import com.sun.source.tree.DoWhileLoopTree;
 import com.sun.source.tree.ExpressionTree;
+import com.sun.source.tree.ForLoopTree;
 import com.sun.source.tree.IdentifierTree;
 import com.sun.source.tree.InstanceOfTree;
 import com.sun.source.tree.LambdaExpressionTree;
@@ -17,6 +20,7 @@ import com.sun.source.tree.SynchronizedTree;
 import com.sun.source.tree.ThrowTree;
 import com.sun.source.tree.Tree;
 import com.sun.source.tree.TryTree;
+import com.sun.source.tree.TypeCastTree;
 import com.sun.source.tree.VariableTree;
 import com.sun.source.tree.WhileLoopTree;
 import com.sun.source.util.JavacTask;
@@ -42,6 +46,7 @@ public final class LanguageTest {
     private static final Set<String> TYPES = Set.of("int", "long", "short", "byte", "char", "boolean", "void", "int[]",
         "long[]", "short[]", "byte[]", "char[]", "boolean[]");
     private static final Map<String, Set<String>> CALLS = new TreeMap<>();
+    private static final Set<String> ARRAYS = new TreeSet<>();
 
     public static void main(String[] args) throws Exception {
         File file = new File(args.length > 0 ? args[0] : ".", "src/main/java/RendezvousDesk.java");
@@ -92,10 +97,15 @@ public final class LanguageTest {
         String type = field.getType().toString();
         rule(2, "the type of " + field.getName(), TYPES.contains(type));
         if (flags.contains(Modifier.STATIC)) {
-            rule(5, field.getName() + " is a constant", flags.contains(Modifier.FINAL) && Set.of("int", "long").contains(type));
+            rule(5, field.getName() + " is a constant", flags.contains(Modifier.FINAL) && Set.of("int",
+                "long").contains(type));
             return 0;
         }
         rule(1, field.getName() + " is private", flags.contains(Modifier.PRIVATE));
+        if (type.endsWith("[]")) {
+            ARRAYS.add(field.getName().toString());
+            rule(4, field.getName() + " is made at once", field.getInitializer() instanceof NewArrayTree);
+        }
         if (field.getInitializer() instanceof NewArrayTree) {
             NewArrayTree made = (NewArrayTree) field.getInitializer();
             Tree length = made.getDimensions().size() == 1 ? made.getDimensions().get(0) : null;
@@ -108,8 +118,16 @@ public final class LanguageTest {
         String name = method.getName().toString();
         Set<Modifier> flags = method.getModifiers().getFlags();
         boolean open = flags.contains(Modifier.PUBLIC);
-        rule(1, name + " is of the face, or private", open == FACE.contains(name) && (open || flags.contains(Modifier.PRIVATE)));
+        rule(1, name + " is of the face, or private", open == FACE.contains(name)
+            && (open || flags.contains(Modifier.PRIVATE)));
         rule(10, name + " takes at most seven", method.getParameters().size() <= 7);
+        for (VariableTree parameter : method.getParameters()) {
+            rule(2, "the type of " + parameter.getName() + " in " + name, TYPES.contains(parameter.getType().toString()));
+        }
+        Tree answer = method.getReturnType();
+        rule(4, name + " answers no array", answer == null || TYPES.contains(answer.toString())
+            && !answer.toString().contains("["));
+        rule(6, name + " throws nothing", method.getThrows().isEmpty());
         Set<String> called = new TreeSet<>();
         CALLS.put(name, called);
         method.getBody().accept(new Body(name, called), null);
@@ -174,6 +192,31 @@ public final class LanguageTest {
         @Override
         public Void visitWhileLoop(WhileLoopTree node, Void nothing) {
             return never(8, "a loop without a counter");
+        }
+
+        @Override
+        public Void visitDoWhileLoop(DoWhileLoopTree node, Void nothing) {
+            return never(8, "a loop without a counter");
+        }
+
+        @Override
+        public Void visitForLoop(ForLoopTree node, Void nothing) {
+            rule(8, "a loop with a bound and a counter in " + name, node.getCondition() != null
+                && node.getUpdate().size() == 1
+                && node.getInitializer().size() == 1);
+            return super.visitForLoop(node, nothing);
+        }
+
+        @Override
+        public Void visitAssignment(AssignmentTree node, Void nothing) {
+            rule(4, "no array is assigned in " + name, !ARRAYS.contains(node.getVariable().toString()));
+            return super.visitAssignment(node, nothing);
+        }
+
+        @Override
+        public Void visitTypeCast(TypeCastTree node, Void nothing) {
+            rule(6, "casts between numbers alone in " + name, TYPES.contains(node.getType().toString()));
+            return super.visitTypeCast(node, nothing);
         }
 
         @Override

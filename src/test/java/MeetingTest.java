@@ -46,7 +46,8 @@ public final class MeetingTest {
 
     private static void callThatFindsAnAccept() {
         CHECK.about("ACCEPTING");
-        RendezvousDesk desk = Script.desk("TASK 1; DELAY 1; SET 8; CALL 1 2; SHOW", "ACCEPT 2; SHOW; ADD 1; DONE; ADD 5; SHOW");
+        RendezvousDesk desk = Script.desk("TASK 1; DELAY 1; SET 8; CALL 1 2; SHOW",
+            "ACCEPT 2; SHOW; ADD 1; DONE; ADD 5; SHOW");
         CHECK.due("run(3)", LONG, desk.run(3));
         CHECK.task(desk, 1, 3, 0, 0, -1, 0);
         CHECK.due("run(5)", LONG, desk.run(5));
@@ -111,7 +112,8 @@ public final class MeetingTest {
         CHECK.due("run", STUCK, desk.run(500));
         CHECK.queue(desk, 1, 0, 2, 4);
         CHECK.about("a caller gives up");
-        desk = Script.desk("TASK 1; TASK 2; TASK 3; TASK 2; CALL 1 0", "ACCEPT 1", caller, "LIMIT 4; LATE 1 0; PUT 1; PUT 2");
+        desk = Script.desk("TASK 1; TASK 2; TASK 3; TASK 2; CALL 1 0",
+            "ACCEPT 1", caller, "LIMIT 4; LATE 1 0; PUT 1; PUT 2");
         CHECK.due("run(9)", LONG, desk.run(9));
         CHECK.queue(desk, 1, 0, 2, 3, 0);
         CHECK.due("run", STUCK, desk.run(500));

@@ -15,7 +15,8 @@ public final class QueryTest {
 
     private static void taskAnswers() {
         CHECK.about("task");
-        RendezvousDesk desk = Script.desk("SET 6; LIMIT 9; BLOCK; TASK 3; LEAVE", "", "", "LIMIT 4; SET -3; HANDLE 0; ACCEPT 1");
+        RendezvousDesk desk = Script.desk("SET 6; LIMIT 9; BLOCK; TASK 3; LEAVE", "", "",
+            "LIMIT 4; SET -3; HANDLE 0; ACCEPT 1");
         desk.run(500);
         int[][] due = {{6, 4, 1, -1, 0, -1, 1, 9}, {3, 3, -3, -1, 3, 0, 1, 4}};
         for (int t = 0; t < 2; t++) {

@@ -19,10 +19,10 @@ final class Script {
 
     static void write(RendezvousDesk desk, int body, String text) {
         desk.clear(body);
-        if (text.isBlank()) {
-            return;
-        }
         for (String part : text.split(";")) {
+            if (part.isBlank()) {
+                continue;
+            }
             String[] words = part.trim().split(" +");
             int op = NAMES.indexOf(words[0]);
             int a = words.length > 1 ? Integer.parseInt(words[1]) : 0;
