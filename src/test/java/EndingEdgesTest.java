@@ -502,7 +502,7 @@ public final class EndingEdgesTest {
         CHECK.run(desk, 500, STUCK);
         CHECK.task(desk, 1, 8, 8, 0, 14, 0);
         CHECK.notes(desk, 3, 11, 2, 11);
-        CHECK.counts(desk, 4, 2);
+        CHECK.counts(desk, 4, 2, 23, 10);
     }
 
     private static void whatDependedOnItsBlocks() {

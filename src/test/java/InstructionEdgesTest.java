@@ -20,6 +20,8 @@ public final class InstructionEdgesTest {
         aNinthTaskRaises();
         leaveOfAnEmptyBlock();
         leaveWaitsForTerminated();
+        limitOfZeroAndOfMost();
+        limitStaysUntilAnother();
         lateWithLimitZero();
         lateWithTheLeastAndTheGreatestLimit();
         lateLeavesTheNextOut();
@@ -258,6 +260,30 @@ public final class InstructionEdgesTest {
         CHECK.row(desk, 0);
         CHECK.run(desk, 10, OVER);
         CHECK.notes(desk, 2, 2, 0, 1);
+    }
+
+    private static void limitOfZeroAndOfMost() {
+        CHECK.about("LIMIT is a");
+        RendezvousDesk desk = Script.desk("LIMIT 99; LIMIT 0; LIMIT 1");
+        int[] due = {99, 0, 1};
+        for (int n = 0; n < 3; n++) {
+            CHECK.run(desk, n + 1, LONG);
+            CHECK.due("task(0, 7)", due[n], desk.task(0, 7));
+            CHECK.due("X", 0, desk.task(0, 2));
+        }
+    }
+
+    private static void limitStaysUntilAnother() {
+        String[] others = {"PUT 1", "SHOW", "SET 1", "ADD 1", "GO 3", "ZERO 3", "TASK 2", "BLOCK", "LEAVE", "CALL 1 0", "LATE 1 0",
+            "LATE 0 0", "DELAY 1", "ACCEPT 0", "DONE", "SELECT; AFTER 9", "SELECT; ELSE 9", "WHEN 0 1", "IFX 0 1", "ELSE 1",
+            "AFTER 1", "TERMINATE", "RAISE 1", "HANDLE 1", "OVER", "ABORT 1", "ABORT 0", "END"};
+        for (String other : others) {
+            CHECK.about("LIMIT stays until another one: " + other);
+            RendezvousDesk desk = Script.desk("TASK 1; LIMIT 7; " + other, "ACCEPT 0; DONE", "");
+            desk.run(500);
+            CHECK.due("task(0, 7)", 7, desk.task(0, 7));
+            CHECK.due("task(1, 7)", 0, desk.task(1, 7));
+        }
     }
 
     private static void lateWithLimitZero() {

@@ -289,6 +289,22 @@ public final class PromiseEdgesTest {
         RendezvousDesk fresh = Script.desk("END");
         CHECK.run(fresh, 1, OVER);
         same(desk, Check.all(fresh));
+        CHECK.about("a RUN, with empty QUEUES");
+        desk = Script.desk("TASK 1; CALL 0 0", "CALL 0 0");
+        CHECK.run(desk, 500, STUCK);
+        CHECK.queue(desk, 0, 0, 0, 1);
+        Script.write(desk, 0, "END");
+        CHECK.run(desk, 1, OVER);
+        same(desk, Check.all(fresh));
+        CHECK.about("a RUN, in which no one is to be aborted");
+        desk = Script.desk("TASK 1; TASK 2; DELAY 1; ABORT 2; ACCEPT 1", "ACCEPT 0; ACCEPT 1", "CALL 1 0; PUT 1");
+        CHECK.run(desk, 500, STUCK);
+        CHECK.task(desk, 2, 2, 0, 0, -1, 0);
+        Script.write(desk, 0, "TASK 1; TASK 2");
+        Script.write(desk, 1, "ACCEPT 0; DONE");
+        CHECK.run(desk, 500, OVER);
+        CHECK.task(desk, 2, 8, 2, 0, 0, 0);
+        CHECK.notes(desk, 2, 1);
     }
 
     private static void runAnswersTheSameAgain() {
@@ -432,6 +448,16 @@ public final class PromiseEdgesTest {
         }
         CHECK.due("queued(2, -1, 0), the QUEUE before", -1, desk.queued(2, -1, 0));
         CHECK.due("queued(0, 5, 0), the QUEUE behind", -1, desk.queued(0, 5, 0));
+        CHECK.about("queued: there is no entry 3, nor a task 8");
+        desk = Script.desk("TASK 1; ".repeat(7) + "CALL 1 0", "CALL 1 0");
+        CHECK.run(desk, 500, STUCK);
+        CHECK.due("queued(1, 0, 0)", 1, desk.queued(1, 0, 0));
+        CHECK.due("queued(0, 3, 0)", -1, desk.queued(0, 3, 0));
+        CHECK.due("queued(8, 0, 0)", -1, desk.queued(8, 0, 0));
+        CHECK.due("queued(1, 0, 7)", 7, desk.queued(1, 0, 7));
+        CHECK.due("queued(1, 0, 8)", -1, desk.queued(1, 0, 8));
+        desk = Script.desk("TASK 1; TASK 2; TASK 2; CALL 1 2", "ACCEPT 0", "CALL 1 2");
+        CHECK.run(desk, 500, STUCK);
         CHECK.about("queued: of an earlier run alone");
         Script.write(desk, 0, "TASK 1; ACCEPT 1");
         CHECK.run(desk, 500, STUCK);
