@@ -9,6 +9,10 @@ final class Script {
     private Script() {
     }
 
+    static int number(String name) {
+        return NAMES.indexOf(name);
+    }
+
     static RendezvousDesk desk(String... bodies) {
         RendezvousDesk desk = new RendezvousDesk();
         for (int body = 0; body < bodies.length; body++) {
@@ -24,7 +28,7 @@ final class Script {
                 continue;
             }
             String[] words = part.trim().split(" +");
-            int op = NAMES.indexOf(words[0]);
+            int op = number(words[0]);
             int a = words.length > 1 ? Integer.parseInt(words[1]) : 0;
             int b = words.length > 2 ? Integer.parseInt(words[2]) : 0;
             if (desk.add(body, op, a, b) < 0) {
